@@ -1,0 +1,35 @@
+/** Beginnings that several tests share. */
+final class Scenes {
+    /** The rings 0 to 3 are closed; the ring 4 wants the colour 1 at the place 0 of the pattern alone. */
+    static final String FOUR_CLOSED = """
+        pattern 0 0 = 0
+        pattern 1 0 = 0
+        pattern 2 0 = 0
+        pattern 3 0 = 0
+        pattern 4 1 = 0
+        close = 0
+        close = 1
+        close = 2
+        close = 3
+        """;
+
+    /** Each quarter gets 6 grains at that place, and the hand 3 keeps the funnel 1. */
+    static final String LAST_RING_POURED = """
+        take 0 1 = 0
+        pour 0 4 0 6 = 6
+        take 0 0 = 1
+        take 1 1 = 0
+        pour 1 4 7 6 = 6
+        take 1 0 = 1
+        take 2 1 = 0
+        pour 2 4 0 6 = 6
+        take 2 0 = 1
+        take 3 1 = 0
+        pour 3 4 7 6 = 6
+        """;
+
+    static final String ALL_CLOSED = FOUR_CLOSED + LAST_RING_POURED + "close = 4\n";
+
+    private Scenes() {
+    }
+}

@@ -1,0 +1,105 @@
+import java.lang.reflect.InvocationTargetException;
+import java.lang.reflect.Method;
+
+/**
+ * Runs calls that are written as lines, "take 0 1 = 0", on a new object and tells every answer that is not due.
+ * "text h01;c = 5" puts a whole text, eight characters at a time; "x3 close = 0" makes a call several times with the
+ * same answer; what stands behind "#" is a remark. A number with a 0 ahead is octal.
+ */
+final class Script {
+    private static int wrong = 0;
+    private static int made = 0;
+
+    private Script() {
+    }
+
+    static void run(String title, String... parts) {
+        SandMandalas mandala = new SandMandalas();
+        int row = 0;
+        for (String line : String.join("\n", parts).split("\n")) {
+            String call = withoutRemark(line).trim();
+            if (!call.isEmpty()) runLine(title + ", call " + ++row, mandala, call);
+        }
+    }
+
+    static void due(String what, long got, long want) {
+        made++;
+        if (got == want) return;
+        wrong++;
+        System.out.println(what + " answered " + got + ", due is " + want);
+    }
+
+    static void finish() {
+        System.out.println(made + " answers looked at, " + wrong + " not as due");
+        if (wrong != 0 || made == 0) System.exit(1);
+    }
+
+    static void putText(SandMandalas mandala, String text) {
+        for (int from = 0; from < text.length(); from += 8) {
+            mandala.put(packed(text.substring(from, Math.min(text.length(), from + 8))));
+        }
+    }
+
+    static long packed(String text) {
+        long characters = 0;
+        for (int i = 0; i < text.length(); i++) characters = characters << 8 | text.charAt(i);
+        return characters;
+    }
+
+    private static String withoutRemark(String line) {
+        int remark = line.indexOf('#');
+        return remark < 0 ? line : line.substring(0, remark);
+    }
+
+    private static void runLine(String title, SandMandalas mandala, String line) {
+        int equals = line.lastIndexOf(" = ");
+        if (equals < 0) throw new IllegalStateException("no answer in: " + line);
+        long want = number(line.substring(equals + 3).trim());
+        String[] words = line.substring(0, equals).trim().split(" +");
+        if (words[0].equals("text")) {
+            putText(mandala, words[1]);
+            due(title + ": " + line, mandala.count(10), want);
+            return;
+        }
+        int first = words[0].matches("x[0-9]+") ? 1 : 0;
+        int times = first == 1 ? Integer.parseInt(words[0].substring(1)) : 1;
+        for (int i = 0; i < times; i++) due(title + ": " + line, call(mandala, words, first), want);
+    }
+
+    private static long call(SandMandalas mandala, String[] words, int first) {
+        for (Method method : SandMandalas.class.getDeclaredMethods()) {
+            Class<?>[] kinds = method.getParameterTypes();
+            if (!method.getName().equals(words[first]) || kinds.length != words.length - first - 1) continue;
+            Object[] arguments = new Object[kinds.length];
+            for (int i = 0; i < kinds.length; i++) {
+                long value = number(words[first + 1 + i]);
+                if (kinds[i] == long.class) arguments[i] = value;
+                else arguments[i] = (int) value;
+            }
+            return invoke(method, mandala, arguments);
+        }
+        throw new IllegalStateException("no such call: " + String.join(" ", words));
+    }
+
+    private static long invoke(Method method, SandMandalas mandala, Object[] arguments) {
+        try {
+            return (Integer) method.invoke(mandala, arguments);
+        } catch (IllegalAccessException | InvocationTargetException e) {
+            throw new IllegalStateException(method.getName() + " failed", e);
+        }
+    }
+
+    private static long number(String word) {
+        switch (word) {
+            case "NO_SUCH": return SandMandalas.NO_SUCH;
+            case "BAD_VALUE": return SandMandalas.BAD_VALUE;
+            case "BAD_TEXT": return SandMandalas.BAD_TEXT;
+            case "TOO_MANY": return SandMandalas.TOO_MANY;
+            case "NOT_POSSIBLE": return SandMandalas.NOT_POSSIBLE;
+            case "NONE": return SandMandalas.NONE;
+            case "LEAST": return Integer.MIN_VALUE;
+            case "MOST": return Integer.MAX_VALUE;
+            default: return Long.decode(word);
+        }
+    }
+}

@@ -12,6 +12,7 @@ public final class ChangesTest {
         breathingOverRings();
         closing();
         sweeping();
+        sweepingFullRings();
         Script.finish();
     }
 
@@ -104,6 +105,12 @@ public final class ChangesTest {
             ofColour 1 1 = NONE
             ofColour 6 1 = 1
             ofColour 2 1 = 0
+            """);
+        Script.run("promise 4, rings that are closed hold no funnel", """
+            pattern 0 0 = 0
+            close = 0
+            ofColour 1 1 = NONE
+            take 2 1 = 0
             """);
         Script.run("promise 4, wrong", """
             take 4 1 = NO_SUCH
@@ -308,6 +315,13 @@ public final class ChangesTest {
             at 0 4 0 1 = 43
             at 0 3 0 1 = 43
             at 1 4 7 1 = 88
+            fill 1 99 = 99
+            pour 1 0 0 99 = 99
+            breathe 0 0 = 0
+            at 1 0 0 1 = 99
+            breathe 2 0 = 0
+            at 1 0 0 1 = 99
+            at 1 4 7 1 = 88
             """);
         Script.run("promise 8, closed rings stay", """
             pattern 0 1 = 0
@@ -369,6 +383,37 @@ public final class ChangesTest {
             close = NOT_POSSIBLE
             scrape 3 4 0 = 1
             close = 4
+            """);
+    }
+
+    private static void sweepingFullRings() {
+        Script.run("promise 10, all grains of one quarter", Scenes.WHOLE_FIRST_RING, """
+            pattern 1 0 = 0
+            pattern 2 0 = 0
+            pattern 3 0 = 0
+            pattern 4 0 = 0
+            close = 0
+            close = 1
+            close = 2
+            close = 3
+            close = 4
+            count 4 = 160
+            sweep = 0
+            ofQuarter 0 0 = 0
+            ofQuarter 1 0 = 40
+            ofQuarter 2 0 = 40
+            ofQuarter 3 0 = 40
+            count 3 = 40
+            sweep = 2
+            ofQuarter 1 0 = 40
+            ofQuarter 2 0 = 0
+            ofQuarter 3 0 = 40
+            count 3 = 80
+            sweep = 1
+            ofQuarter 3 0 = 40
+            sweep = 3
+            count 3 = 160
+            count 4 = 0
             """);
     }
 

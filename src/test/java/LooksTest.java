@@ -126,6 +126,26 @@ public final class LooksTest {
     }
 
     private static void unlikePlaces() {
+        Script.run("promise 12, one quarter is unlike", """
+            take 1 1 = 0
+            pour 1 1 0 1 = 1
+            ofRing 1 3 = 128
+            ofRing 0 3 = 0
+            ofRing 2 3 = 0
+            scrape 1 1 0 = 1
+            take 1 0 = 1
+            take 2 1 = 0
+            pour 2 1 0 1 = 1
+            ofRing 1 3 = 1
+            ofRing 0 3 = 0
+            scrape 2 1 0 = 1
+            take 2 0 = 1
+            take 3 1 = 0
+            pour 3 1 7 1 = 1
+            ofRing 1 3 = 1
+            ofRing 0 3 = 0
+            ofRing 2 3 = 0
+            """);
         Script.run("promise 12, unlike quarters", """
             take 0 1 = 0
             pour 0 3 2 1 = 1

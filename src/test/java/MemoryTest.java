@@ -3,6 +3,7 @@ public final class MemoryTest {
     public static void main(String[] args) {
         undoing();
         undoingEachChange();
+        undoingLeavesNothing();
         historyOfSix();
         whatUndoLeaves();
         errorsRecordNothing();
@@ -89,6 +90,46 @@ public final class MemoryTest {
             count 0 = 4
             close = 4
             """);
+    }
+
+    /** Whatever was changed, all that the object tells is as it was before, but for the pad. */
+    private static void undoingLeavesNothing() {
+        undone("", "set 0 7 = 5");
+        undone("", "set 1 7 = 12");
+        undone("", "set 2 0 = 1");
+        undone("", "pattern 2 1 = 0");
+        undone("", "take 0 2 = 1");
+        undone("", "fill 1 5 = 210");
+        undone("", "pour 0 1 1 5 = 5");
+        undone("", "scrape 0 1 0 = 95");
+        undone("", "breathe 0 0 = 0");
+        undone("", "close = 0");
+        undone("text h03;p010*4;c = 12", "carryOut = 1");
+        undone("save 1 = 0\nfill 2 1 = 301\npattern 3 5 = 0", "restore 1 = 0");
+        undone("pattern 1 0 = 0\nscrape 0 1 0 = 95\nclose = 0\nclose = 1\npattern 2 0 = 0\nclose = 2\n"
+            + "pattern 3 0 = 0\nclose = 3\npattern 4 0 = 0\nclose = 4", "sweep = 0");
+    }
+
+    private static void undone(String more, String change) {
+        SandMandalas mandala = new SandMandalas();
+        String title = "promise 25, " + change;
+        Script.runOn(mandala, title, "pattern 0 0 = 0", "take 0 1 = 0", "pour 0 1 0 95 = 95", more);
+        String before = facts(mandala);
+        Script.runOn(mandala, title, change);
+        if (!change.startsWith("sweep")) Script.due(title + " changes something", facts(mandala).equals(before) ? 1 : 0, 0);
+        int undoable = mandala.count(11);
+        Script.due(title + ", undo", mandala.undo(), undoable - 1);
+        Script.due(title + ", all is as before", facts(mandala).equals(before) ? 1 : 0, 1);
+    }
+
+    private static String facts(SandMandalas mandala) {
+        StringBuilder facts = new StringBuilder();
+        for (int what = 0; what < 10; what++) facts.append(mandala.count(what)).append(' ');
+        for (int i = 0; i < 35; i++) facts.append(mandala.ofRing(i / 7, i % 7)).append(' ');
+        for (int i = 0; i < 44; i++) facts.append(mandala.ofQuarter(i / 11, i % 11)).append(' ');
+        for (int i = 0; i < 30; i++) facts.append(mandala.ofColour(1 + i / 5, i % 5)).append(' ');
+        for (int i = 0; i < 8; i++) facts.append(mandala.at(0, 1, i, 1)).append(' ');
+        return facts.toString();
     }
 
     private static void historyOfSix() {
@@ -236,6 +277,35 @@ public final class MemoryTest {
             undo = 5
             restore 0 = 2
             count 0 = 2
+            """);
+        Script.run("promise 26 and 27, changes do not reach the slots", """
+            set 0 9 = 5
+            save 0 = 0
+            set 0 10 = 9
+            save 1 = 0
+            set 0 11 = 10
+            set 0 12 = 11
+            set 0 13 = 12
+            set 0 14 = 13
+            set 0 15 = 14
+            set 0 16 = 15
+            set 0 17 = 16
+            set 0 18 = 17
+            restore 1 = 0
+            count 7 = 10
+            restore 0 = 0
+            count 7 = 9
+            undo = 5
+            undo = 4
+            undo = 3
+            undo = 2
+            undo = 1
+            undo = 0
+            count 7 = 14
+            restore 0 = 0
+            count 7 = 9
+            restore 1 = 0
+            count 7 = 10
             """);
         Script.run("promise 26 and 27, wrong", """
             save -1 = BAD_VALUE

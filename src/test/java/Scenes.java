@@ -30,6 +30,15 @@ final class Scenes {
 
     static final String ALL_CLOSED = FOUR_CLOSED + LAST_RING_POURED + "close = 4\n";
 
+    /** The ring 0 wants the colour 1 at each place, and each place has 5 grains of it. */
+    static final String WHOLE_FIRST_RING = "pattern 0 011111111 = 0\n" + poured(0) + poured(1) + poured(2) + poured(3);
+
     private Scenes() {
+    }
+
+    private static String poured(int hand) {
+        StringBuilder lines = new StringBuilder("take " + hand + " 1 = 0\n");
+        for (int place = 0; place < 8; place++) lines.append("pour " + hand + " 0 " + place + " 5 = 5\n");
+        return lines.append("take " + hand + " 0 = 1\n").toString();
     }
 }

@@ -14,7 +14,10 @@ final class Script {
     }
 
     static void run(String title, String... parts) {
-        SandMandalas mandala = new SandMandalas();
+        runOn(new SandMandalas(), title, parts);
+    }
+
+    static void runOn(SandMandalas mandala, String title, String... parts) {
         int row = 0;
         for (String line : String.join("\n", parts).split("\n")) {
             String call = withoutRemark(line).trim();

@@ -194,6 +194,18 @@ public final class WhatIfTest {
             ifBreathed 0 0 1 = 0
             ifBreathed 0 0 2 = 0
             """);
+        Script.run("promise 18, of one quarter", """
+            pattern 0 0 = 0
+            take 1 1 = 0
+            pour 1 0 0 40 = 40
+            ifBreathed 0 0 2 = 0
+            ifBreathed 0 0 1 = 0
+            ifBreathed 2 0 1 = 0
+            ifBreathed 1 0 1 = 1             # the place 1 has to be bare
+            ifBreathed 1 1 1 = 1
+            settles 0 0 = 0
+            settles 2 0 = 0
+            """);
         Script.run("promise 18, wrong", """
             ifBreathed 4 2 3 = NO_SUCH
             ifBreathed -1 0 0 = NO_SUCH
@@ -266,6 +278,12 @@ public final class WhatIfTest {
     }
 
     private static void bestQuarter() {
+        Script.run("promise 20, a single right place", """
+            pattern 2 011111111 = 0
+            take 1 1 = 0
+            pour 1 2 3 5 = 5
+            best = 1
+            """);
         Script.run("promise 20, best", """
             best = 0
             pattern 0 1 = 0

@@ -194,6 +194,18 @@ public final class WhatIfTest {
             ifBreathed 0 0 1 = 0
             ifBreathed 0 0 2 = 0
             """);
+        Script.run("promise 18, each place once", """
+            pattern 1 1 = 0
+            take 0 1 = 0
+            pour 0 1 7 60 = 60
+            ifBreathed 0 0 2 = 1
+            ifBreathed 0 1 2 = 0
+            scrape 0 1 7 = 60
+            pour 0 1 0 60 = 60
+            set 0 50 = 5
+            ifBreathed 0 0 1 = 2             # the place 0 keeps 36, and the place 1 has to be bare
+            ifBreathed 0 1 1 = 2             # or the place 7
+            """);
         Script.run("promise 18, of one quarter", """
             pattern 0 0 = 0
             take 1 1 = 0

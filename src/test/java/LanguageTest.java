@@ -57,7 +57,8 @@ public final class LanguageTest extends TreeScanner<Void, Void> {
     public static void main(String[] args) throws IOException {
         JavaCompiler compiler = ToolProvider.getSystemJavaCompiler();
         try (StandardJavaFileManager files = compiler.getStandardFileManager(null, null, null)) {
-            JavacTask task = (JavacTask) compiler.getTask(null, files, null, null, null, files.getJavaFileObjects(SOURCE));
+            JavacTask task =
+                (JavacTask) compiler.getTask(null, files, null, null, null, files.getJavaFileObjects(SOURCE));
             CompilationUnitTree unit = task.parse().iterator().next();
             LanguageTest test = new LanguageTest(unit, Trees.instance(task).getSourcePositions());
             test.scan(unit, null);

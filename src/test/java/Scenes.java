@@ -30,8 +30,41 @@ final class Scenes {
 
     static final String ALL_CLOSED = FOUR_CLOSED + LAST_RING_POURED + "close = 4\n";
 
+    /** The quarter 3 alone is left. */
+    static final String THREE_SWEPT = ALL_CLOSED + "sweep = 0\nsweep = 2\nsweep = 1\n";
+
+    /** The hand 0 poured all that was in the funnel 1 into the ring 0. */
+    static final String EMPTY_FUNNEL = """
+        take 0 1 = 0
+        pour 0 0 0 99 = 99
+        pour 0 0 1 99 = 99
+        pour 0 0 2 99 = 99
+        pour 0 0 3 3 = 3
+        ofColour 1 0 = 0
+        """;
+
     /** The ring 0 wants the colour 1 at each place, and each place has 5 grains of it. */
     static final String WHOLE_FIRST_RING = "pattern 0 011111111 = 0\n" + poured(0) + poured(1) + poured(2) + poured(3);
+
+    /**
+     * Something of everything, so that whatever a refused call would change is seen: the ring 0 is closed, the slot 1
+     * is saved, the history is full, the pad has orders, the funnel 1 has 3 grains left, and the places (0, 2, 3) and
+     * (0, 3, 7) are full.
+     */
+    static final String BUSY = """
+        pattern 0 0 = 0
+        close = 0
+        save 1 = 1
+        pattern 1 021 = 0
+        take 0 1 = 0
+        take 1 2 = 0
+        pour 0 1 0 20 = 20
+        pour 0 2 3 99 = 99
+        pour 0 3 7 99 = 99
+        pour 0 4 0 79 = 79
+        pour 1 1 6 4 = 4
+        text h33;p310*2;c = 12
+        """;
 
     private Scenes() {
     }

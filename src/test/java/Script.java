@@ -1,5 +1,7 @@
 import java.lang.reflect.InvocationTargetException;
 import java.lang.reflect.Method;
+import java.util.ArrayList;
+import java.util.List;
 
 /**
  * Runs calls that are written as lines, "take 0 1 = 0", on a new object and tells every answer that is not due.
@@ -7,6 +9,8 @@ import java.lang.reflect.Method;
  * same answer; what stands behind "#" is a remark. A number with a 0 ahead is octal.
  */
 final class Script {
+    private static final Method[] METHODS = SandMandalas.class.getDeclaredMethods();
+
     private static int wrong = 0;
     private static int made = 0;
 
@@ -19,10 +23,33 @@ final class Script {
 
     static void runOn(SandMandalas mandala, String title, String... parts) {
         int row = 0;
+        for (String line : linesOf(parts)) runLine(title + ", call " + ++row, mandala, line);
+    }
+
+    /** Makes the calls on a new object without looking at their answers. */
+    static SandMandalas replayed(String... parts) {
+        SandMandalas mandala = new SandMandalas();
+        for (String line : linesOf(parts)) {
+            String[] words = wordsOf(line);
+            if (words[0].equals("text")) putText(mandala, words[1]);
+            else for (int i = 0; i < timesOf(words); i++) call(mandala, words, firstOf(words));
+        }
+        return mandala;
+    }
+
+    /** The lines without remarks, and without those that are empty then. */
+    static List<String> linesOf(String... parts) {
+        List<String> lines = new ArrayList<>();
         for (String line : String.join("\n", parts).split("\n")) {
             String call = withoutRemark(line).trim();
-            if (!call.isEmpty()) runLine(title + ", call " + ++row, mandala, call);
+            if (!call.isEmpty()) lines.add(call);
         }
+        return lines;
+    }
+
+    /** The answer that a line says is due. */
+    static long answerOf(String line) {
+        return number(line.substring(equalsIn(line) + 3).trim());
     }
 
     static void due(String what, long got, long want) {
@@ -55,22 +82,36 @@ final class Script {
     }
 
     private static void runLine(String title, SandMandalas mandala, String line) {
-        int equals = line.lastIndexOf(" = ");
-        if (equals < 0) throw new IllegalStateException("no answer in: " + line);
-        long want = number(line.substring(equals + 3).trim());
-        String[] words = line.substring(0, equals).trim().split(" +");
+        long want = answerOf(line);
+        String[] words = wordsOf(line);
         if (words[0].equals("text")) {
             putText(mandala, words[1]);
             due(title + ": " + line, mandala.count(10), want);
             return;
         }
-        int first = words[0].matches("x[0-9]+") ? 1 : 0;
-        int times = first == 1 ? Integer.parseInt(words[0].substring(1)) : 1;
-        for (int i = 0; i < times; i++) due(title + ": " + line, call(mandala, words, first), want);
+        for (int i = 0; i < timesOf(words); i++) due(title + ": " + line, call(mandala, words, firstOf(words)), want);
+    }
+
+    private static int equalsIn(String line) {
+        int equals = line.lastIndexOf(" = ");
+        if (equals < 0) throw new IllegalStateException("no answer in: " + line);
+        return equals;
+    }
+
+    private static String[] wordsOf(String line) {
+        return line.substring(0, equalsIn(line)).trim().split(" +");
+    }
+
+    private static int firstOf(String[] words) {
+        return words[0].matches("x[0-9]+") ? 1 : 0;
+    }
+
+    private static int timesOf(String[] words) {
+        return firstOf(words) == 1 ? Integer.parseInt(words[0].substring(1)) : 1;
     }
 
     private static long call(SandMandalas mandala, String[] words, int first) {
-        for (Method method : SandMandalas.class.getDeclaredMethods()) {
+        for (Method method : METHODS) {
             Class<?>[] kinds = method.getParameterTypes();
             if (!method.getName().equals(words[first]) || kinds.length != words.length - first - 1) continue;
             Object[] arguments = new Object[kinds.length];
